@@ -12,7 +12,7 @@ public final class RaceLocks {
     private static final int TAPE = 1500, FED = 20;
     private static final int FIELDS = 6, LOCKS = 4, THREADS = 4, LOCALS = 3;
     private static final int STEPS = 24, SPANS = 6, DEPTH = 8, WORD_BYTES = 6;
-    private static final int ALL_STEPS = THREADS * STEPS;
+    private static final int ALL_STEPS = THREADS * STEPS, NOWHERE = ALL_STEPS;
     private static final int PAIRS = THREADS * (THREADS - 1) / 2 * STEPS * STEPS;
     private static final int STATES = 4000, TABLE = 8192, WORDS = THREADS + 1;
 
@@ -139,16 +139,17 @@ public final class RaceLocks {
         if (!loaded) {
             return STATE;
         }
-        if (!program.hasStep(thread, step)) {
+        int slot = program.slotOf(thread, step);
+        if (slot == NOWHERE) {
             return OUTSIDE;
         }
         switch (what) {
-            case 0: return program.kindAt(thread, step);
-            case 1: return program.subjectAt(thread, step);
-            case 2: return program.nextAt(thread, step);
-            case 3: return program.otherAt(thread, step);
-            case 4: return program.heldAt(thread, step);
-            case 5: return program.spanAt(thread, step);
+            case 0: return program.kinds[slot];
+            case 1: return program.subjects[slot];
+            case 2: return program.nexts[slot];
+            case 3: return program.others[slot];
+            case 4: return program.helds[slot];
+            case 5: return program.spanNumbers[slot];
             default: return OUTSIDE;
         }
     }
@@ -230,14 +231,14 @@ public final class RaceLocks {
         if (!program.hasThread(thread) || !space.has(state)) {
             return OUTSIDE;
         }
-        int[] row = space.rowOf(state);
+        space.load(state);
         switch (what) {
-            case 0: return machine.howOf(row, thread);
-            case 1: return machine.stepOf(row, thread);
-            case 2: return machine.canMove(row, thread) ? 1 : 0;
+            case 0: return machine.howOf(thread);
+            case 1: return machine.stepOf(thread);
+            case 2: return machine.canMove(thread) ? 1 : 0;
             case 3:
             case 4:
-            case 5: return machine.localOf(row, thread, what - 3);
+            case 5: return machine.localOf(thread, what - 3);
             default: return OUTSIDE;
         }
     }
@@ -249,7 +250,8 @@ public final class RaceLocks {
         if (field < 0 || field >= program.fields || !space.has(state)) {
             return OUTSIDE;
         }
-        return machine.valueOfField(space.rowOf(state), field);
+        space.load(state);
+        return machine.valueOfField(field);
     }
 
     public int owner(int state, int lock) {
@@ -259,7 +261,8 @@ public final class RaceLocks {
         if (lock < 0 || lock >= program.locks || !space.has(state)) {
             return OUTSIDE;
         }
-        return machine.ownerOf(space.rowOf(state), lock);
+        space.load(state);
+        return machine.ownerOf(lock);
     }
 
     public int stuck(int state) {
@@ -269,14 +272,14 @@ public final class RaceLocks {
         if (!space.has(state) || !space.isLast(state)) {
             return OUTSIDE;
         }
-        int[] row = space.rowOf(state);
-        if (machine.isOver(row)) {
+        space.load(state);
+        if (machine.isOver()) {
             return OUTSIDE;
         }
-        if (machine.hasRing(row)) {
+        if (machine.hasRing()) {
             return 1;
         }
-        return machine.onlyWaits(row) ? 2 : 3;
+        return machine.onlyWaits() ? 2 : 3;
     }
 
     public int whole(int span) {
@@ -287,17 +290,13 @@ public final class RaceLocks {
             return OUTSIDE;
         }
         if (wholes[span] == NONE) {
-            wholes[span] = tryAtOnce(span);
+            wholes[span] = MANY;
+            if (trial.explore(span)) {
+                trialOutcomes.gather(trial);
+                wholes[span] = trialOutcomes.isSameAs(findings.outcomes) ? 1 : 0;
+            }
         }
         return wholes[span];
-    }
-
-    private int tryAtOnce(int span) {
-        if (!trial.explore(span)) {
-            return MANY;
-        }
-        trialOutcomes.gather(trial);
-        return trialOutcomes.isSameAs(findings.outcomes) ? 1 : 0;
     }
 
     public int doubts() {
@@ -320,7 +319,7 @@ public final class RaceLocks {
         if (!loaded) {
             return STATE;
         }
-        if (a == b || !program.hasStep(a, step) || !program.hasStep(b, other)) {
+        if (a == b || program.slotOf(a, step) == NOWHERE || program.slotOf(b, other) == NOWHERE) {
             return OUTSIDE;
         }
         judge.prepare();
@@ -370,27 +369,38 @@ public final class RaceLocks {
         }
     }
 
-    /** What a text tells: its fields, locks, threads, and of each thread its steps. */
+    /**
+     * What a text tells: its fields, locks, threads, and of each thread its steps. A step's parts
+     * stand in its slot of some rows; the slot NOWHERE is that of all steps that are not there.
+     */
     private static final class Program {
-        final int[] length = new int[THREADS];
-        final int[] startedBy = new int[THREADS];
         int fields;
         int locks;
         int threads;
         int spans;
         int total;
-        private int firstFields;
+        int firstValues;
         private int openFields;
-        private final int[] kinds = new int[ALL_STEPS];
-        private final int[] subjects = new int[ALL_STEPS];
-        private final int[] nexts = new int[ALL_STEPS];
-        private final int[] others = new int[ALL_STEPS];
-        private final int[] helds = new int[ALL_STEPS];
-        private final int[] spanNumbers = new int[ALL_STEPS];
-        private final int[] targets = new int[ALL_STEPS];
-        private final int[] lefts = new int[ALL_STEPS];
-        private final int[] signs = new int[ALL_STEPS];
-        private final int[] rights = new int[ALL_STEPS];
+        private final int[] lengths = new int[THREADS];
+        private final int[] starters = new int[THREADS];
+        final int[] kinds = new int[ALL_STEPS + 1];
+        final int[] subjects = new int[ALL_STEPS + 1];
+        final int[] nexts = new int[ALL_STEPS + 1];
+        final int[] others = new int[ALL_STEPS + 1];
+        final int[] helds = new int[ALL_STEPS + 1];
+        final int[] spanNumbers = new int[ALL_STEPS + 1];
+        final int[] targets = new int[ALL_STEPS + 1];
+        final int[] lefts = new int[ALL_STEPS + 1];
+        final int[] signs = new int[ALL_STEPS + 1];
+        final int[] rights = new int[ALL_STEPS + 1];
+
+        Program() {
+            kinds[NOWHERE] = NONE;
+            subjects[NOWHERE] = NONE;
+            nexts[NOWHERE] = NONE;
+            others[NOWHERE] = NONE;
+            spanNumbers[NOWHERE] = NONE;
+        }
 
         void clear() {
             fields = 0;
@@ -398,14 +408,14 @@ public final class RaceLocks {
             threads = 0;
             spans = 0;
             total = 0;
-            firstFields = 0;
+            firstValues = 0;
             openFields = 0;
-            Arrays.fill(length, 0);
-            Arrays.fill(startedBy, 0);
+            Arrays.fill(lengths, 0);
+            Arrays.fill(starters, 0);
         }
 
         void addField(int value, boolean open) {
-            firstFields |= value << 3 * fields;
+            firstValues |= value << 3 * fields;
             if (open) {
                 openFields |= 1 << fields;
             }
@@ -416,250 +426,186 @@ public final class RaceLocks {
             return thread >= 0 && thread < threads && thread < THREADS;
         }
 
-        boolean hasStep(int thread, int step) {
-            return hasThread(thread) && step >= 0 && step < length[thread] && step < STEPS;
-        }
-
         int lengthOf(int thread) {
-            return hasThread(thread) ? length[thread] : 0;
+            return thread >= 0 && thread < THREADS ? lengths[thread] : 0;
         }
 
+        /** The threads that have a 'start' of this one, as bits. */
         int startersOf(int thread) {
-            return hasThread(thread) ? startedBy[thread] : 0;
+            return thread >= 0 && thread < THREADS ? starters[thread] : 0;
         }
 
-        int firstValues() {
-            return firstFields;
+        int slotOf(int thread, int step) {
+            boolean there = thread >= 0 && thread < THREADS && step >= 0 && step < STEPS
+                    && step < lengths[thread];
+            return there ? thread * STEPS + step : NOWHERE;
         }
 
-        /** Puts a new step behind the thread's others: its number. */
+        /** Puts a new step behind the thread's others: its number, or NONE if there is no room. */
         int addStep(int thread, int kind, int subject, int held, int span) {
-            if (!hasThread(thread) || length[thread] >= STEPS) {
+            if (thread < 0 || thread >= THREADS || lengths[thread] < 0 || lengths[thread] >= STEPS) {
                 return NONE;
             }
-            int step = length[thread];
-            int at = thread * STEPS + step;
-            length[thread]++;
+            int step = lengths[thread];
+            int slot = thread * STEPS + step;
+            lengths[thread]++;
             total++;
-            kinds[at] = kind;
-            subjects[at] = subject;
-            helds[at] = held;
-            spanNumbers[at] = span;
-            nexts[at] = NONE;
-            others[at] = NONE;
-            setWorking(thread, step, NONE, 0, NONE, 0);
+            kinds[slot] = kind;
+            subjects[slot] = subject;
+            helds[slot] = held;
+            spanNumbers[slot] = span;
+            nexts[slot] = NONE;
+            others[slot] = NONE;
             return step;
         }
 
-        /** What a step works on: the local that it sets; left, sign and right of its sum or test. */
-        void setWorking(int thread, int step, int target, int left, int sign, int right) {
-            if (hasStep(thread, step)) {
-                int at = thread * STEPS + step;
-                targets[at] = target;
-                lefts[at] = left;
-                signs[at] = sign;
-                rights[at] = right;
-            }
-        }
-
-        void setNext(int thread, int step, int next) {
-            if (hasStep(thread, step)) {
-                nexts[thread * STEPS + step] = next;
-            }
-        }
-
-        void setOther(int thread, int step, int other) {
-            if (hasStep(thread, step)) {
-                others[thread * STEPS + step] = other;
-            }
-        }
-
         /** A 'start' or 'join' gets the thread that its NAME has come to mean. */
-        void setThread(int thread, int step, int meant) {
-            if (hasStep(thread, step) && hasThread(meant)) {
-                subjects[thread * STEPS + step] = meant;
-                if (kindAt(thread, step) == START) {
-                    startedBy[meant] |= 1 << thread;
+        void setThread(int slot, int meant) {
+            if (slot >= 0 && slot < ALL_STEPS && meant >= 0 && meant < THREADS) {
+                subjects[slot] = meant;
+                if (kinds[slot] == START) {
+                    starters[meant] |= 1 << slot / STEPS;
                 }
             }
         }
 
-        private int part(int[] row, int thread, int step) {
-            int at = thread * STEPS + step;
-            return hasStep(thread, step) && at < row.length ? row[at] : NONE;
-        }
-
-        int kindAt(int thread, int step) {
-            return part(kinds, thread, step);
-        }
-
-        int subjectAt(int thread, int step) {
-            return part(subjects, thread, step);
-        }
-
-        int nextAt(int thread, int step) {
-            return part(nexts, thread, step);
-        }
-
-        int otherAt(int thread, int step) {
-            return part(others, thread, step);
-        }
-
-        int heldAt(int thread, int step) {
-            return hasStep(thread, step) ? part(helds, thread, step) : 0;
-        }
-
-        int spanAt(int thread, int step) {
-            return part(spanNumbers, thread, step);
-        }
-
-        int targetAt(int thread, int step) {
-            return part(targets, thread, step);
-        }
-
-        int leftAt(int thread, int step) {
-            return part(lefts, thread, step);
-        }
-
-        int signAt(int thread, int step) {
-            return part(signs, thread, step);
-        }
-
-        int rightAt(int thread, int step) {
-            return part(rights, thread, step);
-        }
-
-        boolean touchesField(int thread, int step) {
-            int kind = kindAt(thread, step);
-            return kind == READ || kind == WRITE;
-        }
-
         /** Whether two steps are a READ or WRITE of one field that is not open, one a WRITE. */
-        boolean clash(int a, int step, int b, int other) {
-            if (!touchesField(a, step) || !touchesField(b, other)) {
+        boolean clash(int slot, int other) {
+            if (slot < 0 || slot >= ALL_STEPS || other < 0 || other >= ALL_STEPS) {
                 return false;
             }
-            int field = subjectAt(a, step);
-            boolean writes = kindAt(a, step) == WRITE || kindAt(b, other) == WRITE;
-            return writes && field == subjectAt(b, other) && (openFields >>> field & 1) == 0;
+            int field = subjects[slot];
+            boolean touches = kinds[slot] <= WRITE && kinds[other] <= WRITE;
+            boolean writes = kinds[slot] == WRITE || kinds[other] == WRITE;
+            return touches && writes && field == subjects[other] && (openFields >>> field & 1) == 0;
         }
 
-        int pairOf(int a, int step, int b, int other) {
-            return (a * STEPS + step) * ALL_STEPS + b * STEPS + other;
-        }
-
-        /** What race() and doubt() tell of a pair; OUTSIDE if it is none. */
+        /** What race() and doubt() tell of a pair of slots; OUTSIDE if it is none. */
         int partOfPair(int pair, int what) {
-            if (pair == NONE) {
-                return OUTSIDE;
-            }
             int first = pair / ALL_STEPS;
             int second = pair % ALL_STEPS;
+            if (pair < 0 || first >= ALL_STEPS) {
+                return OUTSIDE;
+            }
             switch (what) {
                 case 0: return first / STEPS;
                 case 1: return first % STEPS;
                 case 2: return second / STEPS;
                 case 3: return second % STEPS;
-                case 4: return subjectAt(first / STEPS, first % STEPS);
+                case 4: return subjects[first];
                 default: return OUTSIDE;
             }
         }
     }
 
-    /** The tape's bytes as tokens, one at a time. */
+    /** The tape's bytes cut into tokens, and the one token that is looked at. */
     private static final class Tokens {
         private final byte[] bytes;
+        private final int[] kinds = new int[TAPE + 1];
+        private final int[] places = new int[TAPE + 1];
+        private final long[] values = new long[TAPE + 1];
         private int length;
-        private int behind;
+        private int size;
+        private int at;
         int kind;
         int place;
-        int number;
-        long word;
+        /** The value of a NUMBER, the bytes of a NAME. */
+        long value;
 
         Tokens(byte[] bytes) {
             this.bytes = bytes;
         }
 
-        void startOver(int howMany) {
+        /** Cuts the first bytes into tokens, up to the end or to what is no token. */
+        void scan(int howMany) {
             length = howMany;
-            behind = 0;
+            size = 0;
+            int behind = 0;
+            kind = NAME;
+            for (int i = 0; i <= TAPE && kind != TEXT_END && kind != BAD; i++) {
+                behind = takeToken(behind);
+                kinds[i] = kind;
+                places[i] = place;
+                values[i] = value;
+                size++;
+            }
+            at = NONE;
             advance();
         }
 
         void advance() {
-            while (behind < length && isBlank(byteAt(behind))) {
-                behind++;
+            if (at < size - 1 && at < TAPE) {
+                at++;
             }
-            place = behind;
+            if (at >= 0 && at <= TAPE) {
+                kind = kinds[at];
+                place = places[at];
+                value = values[at];
+            }
+        }
+
+        /** Looks at the token that begins here or behind blanks: the place behind it. */
+        private int takeToken(int from) {
+            place = from;
+            while (place < length && isBlank(byteAt(place))) {
+                place++;
+            }
             int first = byteAt(place);
+            value = 0;
             if (first == NONE) {
                 kind = TEXT_END;
-            } else if (isLetter(first)) {
-                takeWord();
-            } else if (isDigit(first)) {
-                takeNumber(first);
-            } else {
-                takeSign(first);
+                return place;
             }
+            if (isOfWord(first)) {
+                return first <= '9' ? takeNumber(first) : takeWord();
+            }
+            return takeSign(first);
         }
 
-        private int byteAt(int at) {
-            return at < 0 || at >= length || at >= bytes.length ? NONE : bytes[at] & 255;
+        private int byteAt(int i) {
+            return i < 0 || i >= length || i >= bytes.length ? NONE : bytes[i] & 255;
         }
 
-        private void takeWord() {
-            long packed = 0;
+        private int takeWord() {
+            int behind = place;
             while (behind < length && isOfWord(byteAt(behind))) {
-                packed = packed << 8 | byteAt(behind);
+                value = value << 8 | byteAt(behind);
                 behind++;
             }
-            word = packed;
-            kind = behind - place > WORD_BYTES ? BAD : kindOfWord(packed);
-        }
-
-        private static int kindOfWord(long packed) {
-            for (int i = 0; i < RESERVED.length; i++) {
-                if (RESERVED[i] == packed) {
-                    return WORD_FIELD + i;
+            kind = behind - place > WORD_BYTES ? BAD : NAME;
+            for (int i = 0; i < RESERVED.length && kind == NAME; i++) {
+                if (RESERVED[i] == value) {
+                    kind = WORD_FIELD + i;
                 }
             }
-            return NAME;
+            return behind;
         }
 
-        private void takeNumber(int digit) {
-            behind = place + 1;
-            number = digit - '0';
-            kind = number > 7 || isOfWord(byteAt(behind)) ? BAD : NUMBER;
+        private int takeNumber(int digit) {
+            value = digit - '0';
+            kind = digit > '7' || isOfWord(byteAt(place + 1)) ? BAD : NUMBER;
+            return place + 1;
         }
 
-        private void takeSign(int first) {
-            boolean twin = (first == '=' || first == '!') && byteAt(place + 1) == '=';
-            behind = twin ? place + 2 : place + 1;
-            if (twin) {
+        private int takeSign(int first) {
+            if ((first == '=' || first == '!') && byteAt(place + 1) == '=') {
                 kind = first == '=' ? SAME : DIFFERENT;
-            } else {
-                kind = isSign(first) ? first : BAD;
+                return place + 2;
             }
+            kind = isSign(first) ? first : BAD;
+            return place + 1;
         }
 
-        private static boolean isBlank(int at) {
-            return at == ' ' || at == '\n';
+        private static boolean isBlank(int b) {
+            return b == ' ' || b == '\n';
         }
 
-        private static boolean isLetter(int at) {
-            return at >= 'a' && at <= 'z';
+        private static boolean isOfWord(int b) {
+            return b >= 'a' && b <= 'z' || b >= '0' && b <= '9';
         }
 
-        private static boolean isDigit(int at) {
-            return at >= '0' && at <= '9';
-        }
-
-        private static boolean isOfWord(int at) {
-            return isLetter(at) || isDigit(at);
-        }
-
-        private static boolean isSign(int at) {
-            switch (at) {
+        private static boolean isSign(int b) {
+            switch (b) {
                 case '=':
                 case ';':
                 case '{':
@@ -692,33 +638,33 @@ public final class RaceLocks {
             localCount = 0;
         }
 
-        private int find(long word) {
-            for (int i = 0; i < size && i < MOST; i++) {
-                if (words[i] == word) {
-                    return i;
-                }
-            }
-            return NONE;
-        }
-
-        /** FIELD_NAME, LOCK_NAME, THREAD_NAME; NONE if it is not told. */
-        int sortOf(long word) {
-            int at = find(word);
-            return at < 0 ? NONE : sorts[at];
-        }
-
-        int numberOf(long word) {
-            int at = find(word);
-            return at < 0 ? NONE : numbers[at];
-        }
-
         void tell(long word, int sort, int number) {
-            if (size < MOST) {
+            if (size >= 0 && size < MOST) {
                 words[size] = word;
                 sorts[size] = sort;
                 numbers[size] = number;
                 size++;
             }
+        }
+
+        /** FIELD_NAME, LOCK_NAME, THREAD_NAME; NONE if it is not told. */
+        int sortOf(long word) {
+            for (int i = 0; i < size && i < MOST; i++) {
+                if (words[i] == word) {
+                    return sorts[i];
+                }
+            }
+            return NONE;
+        }
+
+        /** Its number among the NAMES of a sort; NONE if it is not told as one. */
+        int numberOf(long word, int sort) {
+            for (int i = 0; i < size && i < MOST; i++) {
+                if (words[i] == word && sorts[i] == sort) {
+                    return numbers[i];
+                }
+            }
+            return NONE;
         }
 
         int localOf(long word) {
@@ -730,10 +676,10 @@ public final class RaceLocks {
             return NONE;
         }
 
-        /** The local's number, a new one if there is room; else NONE. */
+        /** The local's number, a new one if it has not come before; NONE if there is no room. */
         int makeLocal(long word) {
             int known = localOf(word);
-            if (known != NONE || localCount >= LOCALS) {
+            if (known != NONE || localCount < 0 || localCount >= LOCALS) {
                 return known;
             }
             locals[localCount] = word;
@@ -754,12 +700,12 @@ public final class RaceLocks {
         private final int[] keptOthers = new int[DEPTH];
         private final int[] keptHelds = new int[DEPTH];
         int depth;
+        int latest;
         private int thread;
         private int openNexts;
         private int openOthers;
         private int held;
         private int span;
-        private int latest;
 
         Weaver(Program program) {
             this.program = program;
@@ -768,11 +714,11 @@ public final class RaceLocks {
         void beginThread(int number) {
             thread = number;
             depth = 0;
+            latest = NONE;
             openNexts = 0;
             openOthers = 0;
             held = 0;
             span = NONE;
-            latest = NONE;
         }
 
         boolean hasRoom() {
@@ -783,28 +729,32 @@ public final class RaceLocks {
             return span != NONE;
         }
 
-        int latestStep() {
-            return latest;
-        }
-
         void emit(int kind, int subject) {
             closeOpen(program.lengthOf(thread));
             latest = program.addStep(thread, kind, subject, held, span);
             openNexts = kind == STOP || latest == NONE ? 0 : 1 << latest;
         }
 
+        /** What the latest step works on: the local that it sets, the parts of its sum or test. */
         void work(int target, int left, int sign, int right) {
-            program.setWorking(thread, latest, target, left, sign, right);
+            int slot = program.slotOf(thread, latest);
+            program.targets[slot] = target;
+            program.lefts[slot] = left;
+            program.signs[slot] = sign;
+            program.rights[slot] = right;
         }
 
         /** All steps whose next or other one was open go to this one. */
         private void closeOpen(int target) {
             for (int step = 0; step < STEPS; step++) {
-                if ((openNexts >>> step & 1) != 0) {
-                    program.setNext(thread, step, target);
-                }
-                if ((openOthers >>> step & 1) != 0) {
-                    program.setOther(thread, step, target);
+                int slot = thread * STEPS + step;
+                if (slot >= 0 && slot < ALL_STEPS) {
+                    if ((openNexts >>> step & 1) != 0) {
+                        program.nexts[slot] = target;
+                    }
+                    if ((openOthers >>> step & 1) != 0) {
+                        program.others[slot] = target;
+                    }
                 }
             }
             openNexts = 0;
@@ -882,8 +832,9 @@ public final class RaceLocks {
             int length = program.lengthOf(thread);
             closeOpen(length);
             for (int step = 0; step < length && step < STEPS; step++) {
-                if (program.kindAt(thread, step) == STOP) {
-                    program.setNext(thread, step, length);
+                int slot = program.slotOf(thread, step);
+                if (program.kinds[slot] == STOP) {
+                    program.nexts[slot] = length;
                 }
             }
         }
@@ -914,19 +865,20 @@ public final class RaceLocks {
             faultPlace = 0;
             program.clear();
             names.clear();
-            tokens.startOver(length);
-            readTellings();
-            readThreads();
-            if (isSound() && tokens.kind != TEXT_END) {
-                failHere(MISPLACED);
+            weaver.beginThread(0);
+            tokens.scan(length);
+            for (int turn = 0; turn <= TAPE && faultKind == 0; turn++) {
+                if (weaver.depth > 0) {
+                    readStatement();
+                } else if (tokens.kind != TEXT_END) {
+                    readTelling();
+                } else {
+                    break;
+                }
             }
-            if (isSound()) {
-                findThreads();
+            for (int slot = 0; slot < ALL_STEPS && faultKind == 0; slot++) {
+                findThread(slot);
             }
-        }
-
-        private boolean isSound() {
-            return faultKind == 0;
         }
 
         private boolean failHere(int kind) {
@@ -943,15 +895,17 @@ public final class RaceLocks {
             return true;
         }
 
-        private void readTellings() {
-            for (int turn = 0; turn <= TAPE && isSound(); turn++) {
-                if (tokens.kind == WORD_FIELD || tokens.kind == WORD_OPEN) {
-                    tellField(tokens.kind == WORD_OPEN);
-                } else if (tokens.kind == WORD_LOCK) {
-                    tellLock();
-                } else {
-                    return;
-                }
+        private void readTelling() {
+            int word = tokens.kind;
+            boolean early = program.threads == 0;
+            if (early && (word == WORD_FIELD || word == WORD_OPEN)) {
+                tellField(word == WORD_OPEN);
+            } else if (early && word == WORD_LOCK) {
+                tellLock();
+            } else if (word == WORD_THREAD) {
+                tellThread();
+            } else {
+                failHere(MISPLACED);
             }
         }
 
@@ -963,7 +917,7 @@ public final class RaceLocks {
             int value = 0;
             if (tokens.kind == '=') {
                 tokens.advance();
-                value = tokens.number;
+                value = (int) tokens.value;
                 if (!expect(NUMBER)) {
                     return;
                 }
@@ -980,38 +934,29 @@ public final class RaceLocks {
             }
         }
 
+        private void tellThread() {
+            tokens.advance();
+            if (tellName(THREAD_NAME, program.threads, THREADS)) {
+                names.forgetLocals();
+                weaver.beginThread(program.threads);
+                program.threads++;
+                openBlock(THREAD_BLOCK, NONE);
+            }
+        }
+
         private boolean tellName(int sort, int have, int most) {
             if (tokens.kind != NAME) {
                 return failHere(MISPLACED);
             }
-            if (names.sortOf(tokens.word) != NONE) {
+            if (names.sortOf(tokens.value) != NONE) {
                 return failHere(NAMED_WRONG);
             }
             if (have >= most) {
                 return failHere(TOO_MANY);
             }
-            names.tell(tokens.word, sort, have);
+            names.tell(tokens.value, sort, have);
             tokens.advance();
             return true;
-        }
-
-        private void readThreads() {
-            for (int turn = 0; turn <= TAPE && isSound() && tokens.kind == WORD_THREAD; turn++) {
-                tokens.advance();
-                if (tellName(THREAD_NAME, program.threads, THREADS)) {
-                    names.forgetLocals();
-                    weaver.beginThread(program.threads);
-                    program.threads++;
-                    openBlock(THREAD_BLOCK, NONE);
-                    readBody();
-                }
-            }
-        }
-
-        private void readBody() {
-            for (int turn = 0; turn <= TAPE && isSound() && weaver.depth > 0; turn++) {
-                readStatement();
-            }
         }
 
         private void openBlock(int sort, int mark) {
@@ -1030,8 +975,8 @@ public final class RaceLocks {
                 case WORD_LOCK: readLock(); break;
                 case WORD_IF: readBranch(IF, IF_BLOCK); break;
                 case WORD_WHILE: readBranch(WHILE, WHILE_BLOCK); break;
-                case WORD_WAIT: readWait(); break;
-                case WORD_WAKE: readWake(); break;
+                case WORD_WAIT: readSignal(WAIT); break;
+                case WORD_WAKE: readSignal(WAKE); break;
                 case WORD_START: readThreadStep(START); break;
                 case WORD_JOIN: readThreadStep(JOIN); break;
                 case WORD_CHECK: readCheck(); break;
@@ -1083,14 +1028,13 @@ public final class RaceLocks {
 
         /** The number of the lock whose NAME stands here; NONE with a fault. */
         private int takeLockName() {
-            int sort = tokens.kind == NAME ? names.sortOf(tokens.word) : NONE;
-            if (sort == LOCK_NAME) {
-                int lock = names.numberOf(tokens.word);
+            int lock = tokens.kind == NAME ? names.numberOf(tokens.value, LOCK_NAME) : NONE;
+            if (lock != NONE) {
                 tokens.advance();
                 return lock;
             }
-            boolean unknown = tokens.kind == NAME && sort == NONE
-                    && names.localOf(tokens.word) == NONE;
+            boolean unknown = tokens.kind == NAME && names.sortOf(tokens.value) == NONE
+                    && names.localOf(tokens.value) == NONE;
             failHere(unknown ? NAMED_WRONG : MISPLACED);
             return NONE;
         }
@@ -1099,7 +1043,7 @@ public final class RaceLocks {
             if (hasRoomForStep()) {
                 tokens.advance();
                 if (readTest(kind)) {
-                    openBlock(block, weaver.latestStep());
+                    openBlock(block, weaver.latest);
                 }
             }
         }
@@ -1134,75 +1078,73 @@ public final class RaceLocks {
 
         /** A NUMBER is its value, local i is 8 + i; NONE with a fault. */
         private int takeTestValue() {
-            int local = tokens.kind == NAME ? names.localOf(tokens.word) : NONE;
+            int local = tokens.kind == NAME ? names.localOf(tokens.value) : NONE;
             if (local == NONE && tokens.kind != NUMBER) {
                 failHere(MISPLACED);
                 return NONE;
             }
-            int value = local == NONE ? tokens.number : 8 + local;
+            int value = local == NONE ? (int) tokens.value : 8 + local;
             tokens.advance();
             return value;
         }
 
         /** As in a test, but a NAME that is not told is a local, though it has not come before. */
         private int takeSetValue() {
-            if (tokens.kind != NAME) {
-                return takeTestValue();
-            }
-            if (names.sortOf(tokens.word) != NONE) {
+            boolean named = tokens.kind == NAME;
+            if (!named && tokens.kind != NUMBER || named && names.sortOf(tokens.value) != NONE) {
                 failHere(MISPLACED);
                 return NONE;
             }
-            if (names.makeLocal(tokens.word) == NONE) {
+            int local = named ? names.makeLocal(tokens.value) : NONE;
+            if (named && local == NONE) {
                 failHere(TOO_MANY);
                 return NONE;
             }
-            return takeTestValue();
+            int value = named ? 8 + local : (int) tokens.value;
+            tokens.advance();
+            return value;
         }
 
         private void readSetting() {
-            int sort = names.sortOf(tokens.word);
+            int sort = names.sortOf(tokens.value);
             if (sort == LOCK_NAME || sort == THREAD_NAME) {
                 failHere(MISPLACED);
-            } else if (!hasRoomForStep()) {
                 return;
-            } else if (sort == FIELD_NAME) {
-                readWrite(names.numberOf(tokens.word));
-            } else {
-                int local = names.makeLocal(tokens.word);
-                if (local == NONE) {
-                    failHere(TOO_MANY);
-                } else {
-                    readLocalSetting(local);
-                }
             }
-        }
-
-        private void readWrite(int field) {
-            tokens.advance();
-            if (expect('=')) {
-                int value = takeSetValue();
-                if (value != NONE) {
-                    weaver.emit(WRITE, field);
-                    weaver.work(NONE, value, NONE, 0);
-                    expect(';');
-                }
+            boolean writes = sort == FIELD_NAME;
+            int left = writes ? names.numberOf(tokens.value, sort) : names.makeLocal(tokens.value);
+            if (left == NONE || !weaver.hasRoom()) {
+                failHere(TOO_MANY);
+                return;
             }
-        }
-
-        private void readLocalSetting(int local) {
             tokens.advance();
             if (!expect('=')) {
                 return;
             }
-            if (tokens.kind == NAME && names.sortOf(tokens.word) == FIELD_NAME) {
-                weaver.emit(READ, names.numberOf(tokens.word));
-                weaver.work(local, 0, NONE, 0);
-                tokens.advance();
-                expect(';');
+            int right = tokens.kind == NAME ? names.numberOf(tokens.value, FIELD_NAME) : NONE;
+            if (writes) {
+                readWrite(left);
+            } else if (right != NONE) {
+                readRead(left, right);
             } else {
-                readSum(local);
+                readSum(left);
             }
+        }
+
+        private void readWrite(int field) {
+            int value = takeSetValue();
+            if (value != NONE) {
+                weaver.emit(WRITE, field);
+                weaver.work(NONE, value, NONE, 0);
+                expect(';');
+            }
+        }
+
+        private void readRead(int local, int field) {
+            tokens.advance();
+            weaver.emit(READ, field);
+            weaver.work(local, 0, NONE, 0);
+            expect(';');
         }
 
         private void readSum(int local) {
@@ -1224,29 +1166,18 @@ public final class RaceLocks {
             }
         }
 
-        private void readWait() {
-            if (hasRoomForStep()) {
-                tokens.advance();
-                readLockStep(WAIT);
+        private void readSignal(int kind) {
+            if (!hasRoomForStep()) {
+                return;
             }
-        }
-
-        private void readWake() {
-            if (hasRoomForStep()) {
+            tokens.advance();
+            boolean all = kind == WAKE && tokens.kind == WORD_ALL;
+            if (all) {
                 tokens.advance();
-                if (tokens.kind == WORD_ALL) {
-                    tokens.advance();
-                    readLockStep(WAKE_ALL);
-                } else {
-                    readLockStep(WAKE);
-                }
             }
-        }
-
-        private void readLockStep(int kind) {
             int lock = takeLockName();
             if (lock != NONE) {
-                weaver.emit(kind, lock);
+                weaver.emit(all ? WAKE_ALL : kind, lock);
                 expect(';');
             }
         }
@@ -1265,40 +1196,33 @@ public final class RaceLocks {
                 return;
             }
             tokens.advance();
-            int sort = tokens.kind == NAME ? names.sortOf(tokens.word) : FIELD_NAME;
-            int at = program.total;
+            int sort = tokens.kind == NAME ? names.sortOf(tokens.value) : FIELD_NAME;
             if (sort == FIELD_NAME || sort == LOCK_NAME) {
                 failHere(MISPLACED);
-            } else if (at >= 0 && at < ALL_STEPS) {
-                meantWords[at] = tokens.word;
-                meantPlaces[at] = tokens.place;
-                weaver.emit(kind, NONE);
-                tokens.advance();
-                expect(';');
-            }
-        }
-
-        private void findThreads() {
-            int at = 0;
-            for (int thread = 0; thread < program.threads; thread++) {
-                for (int step = 0; step < program.lengthOf(thread); step++) {
-                    findThread(thread, step, at);
-                    at++;
-                }
-            }
-        }
-
-        private void findThread(int thread, int step, int at) {
-            int kind = program.kindAt(thread, step);
-            if (!isSound() || at < 0 || at >= ALL_STEPS || kind != START && kind != JOIN) {
                 return;
             }
-            int meant = names.numberOf(meantWords[at]);
+            weaver.emit(kind, NONE);
+            int slot = program.slotOf(program.threads - 1, weaver.latest);
+            if (slot < ALL_STEPS) {
+                meantWords[slot] = tokens.value;
+                meantPlaces[slot] = tokens.place;
+            }
+            tokens.advance();
+            expect(';');
+        }
+
+        private void findThread(int at) {
+            int slot = program.slotOf(at / STEPS, at % STEPS);
+            int kind = program.kinds[slot];
+            if (slot >= ALL_STEPS || kind != START && kind != JOIN) {
+                return;
+            }
+            int meant = names.numberOf(meantWords[slot], THREAD_NAME);
             if (meant == NONE) {
                 faultKind = UNTOLD;
-                faultPlace = meantPlaces[at];
+                faultPlace = meantPlaces[slot];
             } else {
-                program.setThread(thread, step, meant);
+                program.setThread(slot, meant);
             }
         }
     }
@@ -1313,208 +1237,190 @@ public final class RaceLocks {
     private static final class Machine {
         private static final int STEP_BIT = 9, HOW_BIT = 14, SPAN_BIT = 17, LOCAL_BITS = 511;
         private final Program program;
+        private final int[] hows = new int[THREADS];
+        private final int[] slots = new int[THREADS];
+        private final int[] owners = new int[LOCKS];
+        private final int[] now = new int[WORDS];
+        /** The state that comes by the setFirst() or move() asked last. */
+        final int[] coming = new int[WORDS];
 
         Machine(Program program) {
             this.program = program;
         }
 
-        void setFirst(int[] row) {
-            setWord(row, NONE, program.firstValues());
+        void setFirst() {
+            coming[0] = program.firstValues;
             for (int thread = 0; thread < THREADS; thread++) {
-                int how = RUNNING;
+                int how = program.lengthOf(thread) == 0 ? ENDED : RUNNING;
                 if (program.startersOf(thread) != 0) {
                     how = NOT_STARTED;
-                } else if (program.lengthOf(thread) == 0) {
-                    how = ENDED;
                 }
-                setWord(row, thread, how << HOW_BIT);
+                coming[thread + 1] = how << HOW_BIT;
             }
         }
 
-        /** The word of a thread; thread NONE has the fields' values. */
-        private int word(int[] row, int thread) {
-            return thread < NONE || thread + 1 >= row.length ? 0 : row[thread + 1];
-        }
-
-        private void setWord(int[] row, int thread, int word) {
-            if (thread >= NONE && thread + 1 < row.length) {
-                row[thread + 1] = word;
+        /** Makes the row that begins in this place the state that is asked about and moved from. */
+        void load(int[] words, int from) {
+            if (from < 0 || from + WORDS > words.length) {
+                return;
             }
-        }
-
-        int howOf(int[] row, int thread) {
-            return word(row, thread) >>> HOW_BIT & 7;
-        }
-
-        int stepOf(int[] row, int thread) {
-            return word(row, thread) >>> STEP_BIT & 31;
-        }
-
-        int localOf(int[] row, int thread, int local) {
-            return word(row, thread) >>> 3 * local & 7;
-        }
-
-        int valueOfField(int[] row, int field) {
-            return word(row, NONE) >>> 3 * field & 7;
-        }
-
-        private int withDigit(int word, int digit, int value) {
-            int shift = 3 * digit;
-            return word & ~(7 << shift) | (value & 7) << shift;
+            System.arraycopy(words, from, now, 0, WORDS);
+            Arrays.fill(owners, NONE);
+            for (int thread = 0; thread < THREADS; thread++) {
+                int word = now[thread + 1];
+                hows[thread] = word >>> HOW_BIT & 7;
+                slots[thread] = program.slotOf(thread, word >>> STEP_BIT & 31);
+                int had = locksOf(thread);
+                for (int lock = 0; lock < LOCKS && had != 0; lock++) {
+                    if ((had >>> lock & 1) != 0) {
+                        owners[lock] = thread;
+                    }
+                }
+            }
         }
 
         /** The locks that a thread has, as bits. */
-        private int locksOf(int[] row, int thread) {
-            int step = stepOf(row, thread);
-            switch (howOf(row, thread)) {
-                case RUNNING:
-                    return program.heldAt(thread, step);
+        private int locksOf(int thread) {
+            int slot = slotOf(thread);
+            switch (howOf(thread)) {
+                case RUNNING: return program.helds[slot];
                 case WAITING:
-                case WOKEN:
-                    return program.heldAt(thread, step) & ~(1 << program.subjectAt(thread, step));
-                default:
-                    return 0;
+                case WOKEN: return program.helds[slot] & ~(1 << program.subjects[slot]);
+                default: return 0;
             }
         }
 
-        private boolean hasLock(int[] row, int thread, int lock) {
-            return (locksOf(row, thread) >>> lock & 1) != 0;
+        private int slotOf(int thread) {
+            return thread >= 0 && thread < THREADS ? slots[thread] : NOWHERE;
         }
 
-        int ownerOf(int[] row, int lock) {
-            for (int thread = 0; thread < program.threads; thread++) {
-                if (hasLock(row, thread, lock)) {
-                    return thread;
-                }
-            }
-            return NONE;
+        private int wordOf(int thread) {
+            return thread >= 0 && thread < THREADS ? now[thread + 1] : 0;
         }
 
-        boolean canMove(int[] row, int thread) {
-            int how = howOf(row, thread);
-            int step = stepOf(row, thread);
-            int subject = program.subjectAt(thread, step);
+        int howOf(int thread) {
+            return thread >= 0 && thread < THREADS ? hows[thread] : NONE;
+        }
+
+        int stepOf(int thread) {
+            return wordOf(thread) >>> STEP_BIT & 31;
+        }
+
+        int localOf(int thread, int local) {
+            return thread >= 0 && thread < THREADS ? now[thread + 1] >>> 3 * local & 7 : 0;
+        }
+
+        int valueOfField(int field) {
+            return now[0] >>> 3 * field & 7;
+        }
+
+        int ownerOf(int lock) {
+            return lock >= 0 && lock < LOCKS ? owners[lock] : NONE;
+        }
+
+        boolean canMove(int thread) {
+            int how = howOf(thread);
+            int slot = slotOf(thread);
+            int subject = program.subjects[slot];
             if (how == WOKEN) {
-                return ownerOf(row, subject) == NONE;
+                return ownerOf(subject) == NONE;
             }
             if (how != RUNNING) {
                 return false;
             }
-            switch (program.kindAt(thread, step)) {
-                case TAKE:
-                    int owner = ownerOf(row, subject);
-                    return owner == NONE || owner == thread;
-                case JOIN:
-                    return howOf(row, subject) == ENDED || howOf(row, subject) == FAILED;
-                default:
-                    return true;
+            switch (program.kinds[slot]) {
+                case TAKE: return ownerOf(subject) == NONE || ownerOf(subject) == thread;
+                case JOIN: return howOf(subject) == ENDED || howOf(subject) == FAILED;
+                default: return true;
             }
         }
 
         /** The thread that alone may step, as it is inside the span that is done at once; or NONE. */
-        int aloneIn(int[] row, int span) {
+        int aloneIn(int span) {
             for (int thread = 0; thread < program.threads && span != NONE; thread++) {
-                boolean inside = (word(row, thread) >>> SPAN_BIT & 1) != 0
-                        && howOf(row, thread) == RUNNING
-                        && program.spanAt(thread, stepOf(row, thread)) == span;
-                if (inside && canMove(row, thread)) {
+                boolean inside = (wordOf(thread) >>> SPAN_BIT & 1) != 0
+                        && howOf(thread) == RUNNING
+                        && program.spanNumbers[slotOf(thread)] == span;
+                if (inside && canMove(thread)) {
                     return thread;
                 }
             }
             return NONE;
         }
 
-        /** The thread, which can step, does its step. */
-        void move(int[] row, int thread, int span) {
-            int step = stepOf(row, thread);
-            int inside = span != NONE && program.spanAt(thread, step) == span ? 1 : 0;
-            setWord(row, thread, word(row, thread) & ~(1 << SPAN_BIT) | inside << SPAN_BIT);
-            if (howOf(row, thread) == WOKEN) {
-                goTo(row, thread, program.nextAt(thread, step));
+        /** The thread, which can step, does its step: the state that comes. */
+        void move(int thread, int span) {
+            if (thread < 0 || thread >= THREADS) {
                 return;
             }
-            switch (program.kindAt(thread, step)) {
+            int slot = slotOf(thread);
+            int inside = span != NONE && program.spanNumbers[slot] == span ? 1 : 0;
+            System.arraycopy(now, 0, coming, 0, WORDS);
+            coming[thread + 1] = now[thread + 1] & ~(1 << SPAN_BIT) | inside << SPAN_BIT;
+            boolean well = true;
+            int next = program.nexts[slot];
+            switch (howOf(thread) == WOKEN ? NONE : program.kinds[slot]) {
                 case READ:
                 case WRITE:
-                case SET:
-                    work(row, thread, step);
-                    break;
+                case SET: work(thread, slot); break;
+                case IF:
+                case WHILE: next = holds(thread, slot) ? next : program.others[slot]; break;
+                case CHECK: well = holds(thread, slot); break;
                 case WAIT:
                 case WAKE:
-                case WAKE_ALL:
-                    signal(row, thread, step);
-                    break;
-                case START:
-                    startThread(row, thread, step);
-                    break;
-                case IF:
-                case WHILE:
-                    goTo(row, thread, holds(row, thread, step)
-                            ? program.nextAt(thread, step) : program.otherAt(thread, step));
-                    break;
-                case CHECK:
-                    goOnOrFail(row, thread, step, holds(row, thread, step));
-                    break;
-                default:
-                    goTo(row, thread, program.nextAt(thread, step));
-                    break;
+                case WAKE_ALL: well = signal(thread, slot); break;
+                case START: well = startThread(program.subjects[slot]); break;
+                default: break;
+            }
+            if (!well) {
+                place(thread, stepOf(thread), FAILED);
+            } else if (howOf(thread) == RUNNING && program.kinds[slot] == WAIT) {
+                place(thread, stepOf(thread), WAITING);
+            } else {
+                goTo(thread, next);
             }
         }
 
-        private void goTo(int[] row, int thread, int next) {
+        private void goTo(int thread, int next) {
             boolean over = next < 0 || next >= program.lengthOf(thread);
-            if (over) {
-                setPlace(row, thread, program.lengthOf(thread), ENDED);
-            } else {
-                setPlace(row, thread, next, RUNNING);
-            }
-        }
-
-        private void goOnOrFail(int[] row, int thread, int step, boolean well) {
-            if (well) {
-                goTo(row, thread, program.nextAt(thread, step));
-            } else {
-                setPlace(row, thread, step, FAILED);
-            }
+            place(thread, over ? program.lengthOf(thread) : next, over ? ENDED : RUNNING);
         }
 
         /** Who is ENDED or FAILED is no longer inside a span, whatever its last step was. */
-        private void setPlace(int[] row, int thread, int step, int how) {
+        private void place(int thread, int step, int how) {
             boolean gone = how == ENDED || how == FAILED;
-            int kept = word(row, thread) & (gone ? LOCAL_BITS : LOCAL_BITS | 1 << SPAN_BIT);
-            setWord(row, thread, kept | step << STEP_BIT | how << HOW_BIT);
-        }
-
-        private int valueOf(int[] row, int thread, int value) {
-            return value < 8 ? value : localOf(row, thread, value - 8);
-        }
-
-        private void work(int[] row, int thread, int step) {
-            int kind = program.kindAt(thread, step);
-            int target = program.targetAt(thread, step);
-            int subject = program.subjectAt(thread, step);
-            int value = valueOf(row, thread, program.leftAt(thread, step));
-            int right = valueOf(row, thread, program.rightAt(thread, step));
-            int sign = program.signAt(thread, step);
-            if (kind == WRITE) {
-                setWord(row, NONE, withDigit(word(row, NONE), subject, value));
-            } else {
-                if (kind == READ) {
-                    value = valueOfField(row, subject);
-                } else if (sign == '+') {
-                    value += right;
-                } else if (sign == '-') {
-                    value -= right;
-                }
-                setWord(row, thread, withDigit(word(row, thread), target, value));
+            int kept = gone ? LOCAL_BITS : LOCAL_BITS | 1 << SPAN_BIT;
+            if (thread >= 0 && thread < THREADS) {
+                coming[thread + 1] = coming[thread + 1] & kept | step << STEP_BIT | how << HOW_BIT;
             }
-            goTo(row, thread, program.nextAt(thread, step));
         }
 
-        private boolean holds(int[] row, int thread, int step) {
-            int left = valueOf(row, thread, program.leftAt(thread, step));
-            int right = valueOf(row, thread, program.rightAt(thread, step));
-            switch (program.signAt(thread, step)) {
+        private int valueOf(int thread, int value) {
+            return value < 8 ? value : localOf(thread, value - 8);
+        }
+
+        private void work(int thread, int slot) {
+            int kind = program.kinds[slot];
+            int value = valueOf(thread, program.lefts[slot]);
+            int right = valueOf(thread, program.rights[slot]);
+            if (kind == READ) {
+                value = valueOfField(program.subjects[slot]);
+            } else if (program.signs[slot] == '+') {
+                value += right;
+            } else if (program.signs[slot] == '-') {
+                value -= right;
+            }
+            int at = kind == WRITE ? 0 : thread + 1;
+            int shift = 3 * (kind == WRITE ? program.subjects[slot] : program.targets[slot]);
+            if (at >= 0 && at < WORDS) {
+                coming[at] = coming[at] & ~(7 << shift) | (value & 7) << shift;
+            }
+        }
+
+        private boolean holds(int thread, int slot) {
+            int left = valueOf(thread, program.lefts[slot]);
+            int right = valueOf(thread, program.rights[slot]);
+            switch (program.signs[slot]) {
                 case SAME: return left == right;
                 case DIFFERENT: return left != right;
                 case '<': return left < right;
@@ -1522,68 +1428,59 @@ public final class RaceLocks {
             }
         }
 
-        private void signal(int[] row, int thread, int step) {
-            int kind = program.kindAt(thread, step);
-            int lock = program.subjectAt(thread, step);
-            if (!hasLock(row, thread, lock)) {
-                setPlace(row, thread, step, FAILED);
-            } else if (kind == WAIT) {
-                setPlace(row, thread, step, WAITING);
-            } else {
-                wakeFor(row, lock, kind == WAKE_ALL);
-                goTo(row, thread, program.nextAt(thread, step));
+        /** What 'wait' and 'wake' do for others; false if the thread does not have the lock. */
+        private boolean signal(int thread, int slot) {
+            int lock = program.subjects[slot];
+            int kind = program.kinds[slot];
+            if (ownerOf(lock) != thread) {
+                return false;
             }
-        }
-
-        private void wakeFor(int[] row, int lock, boolean all) {
-            for (int thread = 0; thread < program.threads; thread++) {
-                int step = stepOf(row, thread);
-                if (howOf(row, thread) == WAITING && program.subjectAt(thread, step) == lock) {
-                    setPlace(row, thread, step, WOKEN);
-                    if (!all) {
-                        return;
-                    }
+            boolean waking = kind != WAIT;
+            for (int other = 0; other < program.threads && waking; other++) {
+                if (howOf(other) == WAITING && program.subjects[slotOf(other)] == lock) {
+                    place(other, stepOf(other), WOKEN);
+                    waking = kind == WAKE_ALL;
                 }
             }
+            return true;
         }
 
-        private void startThread(int[] row, int thread, int step) {
-            int other = program.subjectAt(thread, step);
-            boolean well = howOf(row, other) == NOT_STARTED;
-            if (well) {
-                goTo(row, other, 0);
+        private boolean startThread(int other) {
+            if (howOf(other) != NOT_STARTED) {
+                return false;
             }
-            goOnOrFail(row, thread, step, well);
+            goTo(other, 0);
+            return true;
         }
 
         /** Who is FAILED, as bits. */
-        int failedIn(int[] row) {
+        int failed() {
             int bits = 0;
             for (int thread = 0; thread < program.threads; thread++) {
-                if (howOf(row, thread) == FAILED) {
+                if (howOf(thread) == FAILED) {
                     bits |= 1 << thread;
                 }
             }
             return bits;
         }
 
-        private boolean isGone(int[] row, int thread) {
-            int how = howOf(row, thread);
+        private boolean isGone(int thread) {
+            int how = howOf(thread);
             return how == ENDED || how == FAILED || how == NOT_STARTED;
         }
 
-        boolean isOver(int[] row) {
+        boolean isOver() {
             for (int thread = 0; thread < program.threads; thread++) {
-                if (!isGone(row, thread)) {
+                if (!isGone(thread)) {
                     return false;
                 }
             }
             return true;
         }
 
-        boolean onlyWaits(int[] row) {
+        boolean onlyWaits() {
             for (int thread = 0; thread < program.threads; thread++) {
-                if (!isGone(row, thread) && howOf(row, thread) != WAITING) {
+                if (!isGone(thread) && howOf(thread) != WAITING) {
                     return false;
                 }
             }
@@ -1591,32 +1488,32 @@ public final class RaceLocks {
         }
 
         /** Who has the lock that a RUNNING thread is about to take, if it is another one; or NONE. */
-        private int blockerOf(int[] row, int thread) {
-            int step = stepOf(row, thread);
-            if (howOf(row, thread) != RUNNING || program.kindAt(thread, step) != TAKE) {
+        private int blockerOf(int thread) {
+            int slot = slotOf(thread);
+            if (howOf(thread) != RUNNING || program.kinds[slot] != TAKE) {
                 return NONE;
             }
-            int owner = ownerOf(row, program.subjectAt(thread, step));
+            int owner = ownerOf(program.subjects[slot]);
             return owner == thread ? NONE : owner;
         }
 
-        boolean hasRing(int[] row) {
+        boolean hasRing() {
             for (int thread = 0; thread < program.threads; thread++) {
-                int at = blockerOf(row, thread);
+                int at = blockerOf(thread);
                 for (int turn = 0; turn < THREADS && at != NONE; turn++) {
                     if (at == thread) {
                         return true;
                     }
-                    at = blockerOf(row, at);
+                    at = blockerOf(at);
                 }
             }
             return false;
         }
 
-        /** An outcome as a number: the fields' values, who is FAILED, whether all stand for ever. */
-        int outcomeOf(int[] row) {
-            int stands = isOver(row) ? 0 : 1;
-            return word(row, NONE) | failedIn(row) << 3 * FIELDS | stands << 3 * FIELDS + THREADS;
+        /** The outcome as a number: the fields' values, who is FAILED, whether all stand for ever. */
+        int outcome() {
+            int stands = isOver() ? 0 : 1;
+            return now[0] | failed() << 3 * FIELDS | stands << 3 * FIELDS + THREADS;
         }
     }
 
@@ -1628,8 +1525,6 @@ public final class RaceLocks {
         private final int[] ways = new int[STATES];
         private final boolean[] lasts = new boolean[STATES];
         private final int[] table = new int[TABLE];
-        private final int[] row = new int[WORDS];
-        private final int[] coming = new int[WORDS];
         int size;
 
         Space(Program program, Machine machine) {
@@ -1645,19 +1540,18 @@ public final class RaceLocks {
             return has(state) && lasts[state];
         }
 
-        /** The state's row, in a place that is used again for the next one. */
-        int[] rowOf(int state) {
+        /** Makes a state the one that the machine tells about. */
+        void load(int state) {
             if (has(state)) {
-                System.arraycopy(words, state * WORDS, row, 0, WORDS);
+                machine.load(words, state * WORDS);
             }
-            return row;
         }
 
         /** Finds all states, with a span at once or (NONE) without; false if they are too many. */
         boolean explore(int span) {
             size = 0;
             Arrays.fill(table, 0);
-            machine.setFirst(coming);
+            machine.setFirst();
             boolean few = note(0);
             for (int state = 0; state < size && state < STATES && few; state++) {
                 few = exploreFrom(state, span);
@@ -1666,21 +1560,22 @@ public final class RaceLocks {
         }
 
         private boolean exploreFrom(int state, int span) {
-            int[] from = rowOf(state);
-            int alone = machine.aloneIn(from, span);
+            load(state);
+            int alone = machine.aloneIn(span);
             boolean last = true;
             for (int thread = 0; thread < program.threads; thread++) {
                 boolean may = alone == NONE || alone == thread;
-                if (may && machine.canMove(from, thread)) {
+                if (may && machine.canMove(thread)) {
                     last = false;
-                    System.arraycopy(from, 0, coming, 0, WORDS);
-                    machine.move(coming, thread, span);
+                    machine.move(thread, span);
                     if (!note(state * THREADS + thread)) {
                         return false;
                     }
                 }
             }
-            lasts[state] = last;
+            if (has(state)) {
+                lasts[state] = last;
+            }
             return true;
         }
 
@@ -1690,10 +1585,10 @@ public final class RaceLocks {
             if (table[slot] != 0) {
                 return true;
             }
-            if (size >= STATES) {
+            if (size < 0 || size >= STATES) {
                 return false;
             }
-            System.arraycopy(coming, 0, words, size * WORDS, WORDS);
+            System.arraycopy(machine.coming, 0, words, size * WORDS, WORDS);
             ways[size] = way;
             size++;
             table[slot] = size;
@@ -1704,7 +1599,7 @@ public final class RaceLocks {
         private int slotOfComing() {
             int hash = 0;
             for (int i = 0; i < WORDS; i++) {
-                hash = (hash ^ coming[i]) * 0x9E3779B1;
+                hash = (hash ^ machine.coming[i]) * 0x9E3779B1;
                 hash ^= hash >>> 15;
             }
             int slot = hash & TABLE - 1;
@@ -1719,7 +1614,7 @@ public final class RaceLocks {
 
         private boolean isComing(int state) {
             for (int i = 0; i < WORDS && has(state); i++) {
-                if (words[state * WORDS + i] != coming[i]) {
+                if (words[state * WORDS + i] != machine.coming[i]) {
                     return false;
                 }
             }
@@ -1760,7 +1655,8 @@ public final class RaceLocks {
             Arrays.fill(table, 0);
             for (int state = 0; state < space.size; state++) {
                 if (space.isLast(state)) {
-                    note(machine.outcomeOf(space.rowOf(state)), state);
+                    space.load(state);
+                    note(machine.outcome(), state);
                 }
             }
         }
@@ -1824,34 +1720,34 @@ public final class RaceLocks {
             failures.clear();
             Arrays.fill(leastStates, NONE);
             for (int state = 0; state < space.size; state++) {
-                int[] row = space.rowOf(state);
-                if (machine.failedIn(row) != 0) {
+                space.load(state);
+                if (machine.failed() != 0) {
                     failures.add(state);
                 }
                 if (space.isLast(state)) {
-                    Numbers kind = machine.isOver(row) ? ends : stucks;
+                    Numbers kind = machine.isOver() ? ends : stucks;
                     kind.add(state);
                 }
-                noteRaces(row, state);
+                noteRaces(state);
             }
             listRaces();
             outcomes.gather(space);
         }
 
-        private void noteRaces(int[] row, int state) {
+        /** A READ or WRITE can always be stepped, so whether the threads can need not be asked. */
+        private void noteRaces(int state) {
             for (int a = 0; a < program.threads; a++) {
                 for (int b = a + 1; b < program.threads; b++) {
-                    if (machine.howOf(row, a) == RUNNING && machine.howOf(row, b) == RUNNING) {
-                        noteRace(a, machine.stepOf(row, a), b, machine.stepOf(row, b), state);
+                    if (machine.howOf(a) == RUNNING && machine.howOf(b) == RUNNING) {
+                        noteRace(a * STEPS + machine.stepOf(a), b * STEPS + machine.stepOf(b), state);
                     }
                 }
             }
         }
 
-        /** A READ or WRITE can always be stepped, so whether the threads can need not be asked. */
-        private void noteRace(int a, int step, int b, int other, int state) {
-            if (program.clash(a, step, b, other)) {
-                int pair = program.pairOf(a, step, b, other);
+        private void noteRace(int slot, int other, int state) {
+            if (program.clash(slot, other)) {
+                int pair = slot * ALL_STEPS + other;
                 if (pair >= 0 && pair < leastStates.length && leastStates[pair] == NONE) {
                     leastStates[pair] = state;
                 }
@@ -1890,10 +1786,8 @@ public final class RaceLocks {
         void prepare() {
             if (!ready) {
                 ready = true;
-                for (int b = 0; b < THREADS; b++) {
-                    for (int a = 0; a < THREADS; a++) {
-                        nears[b * THREADS + a] = stepsNear(b, a);
-                    }
+                for (int at = 0; at < THREADS * THREADS; at++) {
+                    nears[at] = stepsNear(at / THREADS, at % THREADS);
                 }
                 listDoubts();
                 ringCount = countRings();
@@ -1902,10 +1796,12 @@ public final class RaceLocks {
 
         /** The steps that may come right behind a step, as bits. */
         private int behind(int thread, int step) {
-            int next = program.nextAt(thread, step);
-            int other = program.otherAt(thread, step);
-            int bits = program.hasStep(thread, next) ? 1 << next : 0;
-            return program.hasStep(thread, other) ? bits | 1 << other : bits;
+            int slot = program.slotOf(thread, step);
+            int next = program.nexts[slot];
+            int other = program.others[slot];
+            int length = program.lengthOf(thread);
+            int bits = next >= 0 && next < length ? 1 << next : 0;
+            return other >= 0 && other < length ? bits | 1 << other : bits;
         }
 
         /** These steps and all to which ways lead from them that go through none of the walls. */
@@ -1928,8 +1824,8 @@ public final class RaceLocks {
         private int stepsWith(int thread, int kind, int subject) {
             int bits = 0;
             for (int step = 0; step < program.lengthOf(thread); step++) {
-                if (program.kindAt(thread, step) == kind
-                        && program.subjectAt(thread, step) == subject) {
+                int slot = program.slotOf(thread, step);
+                if (program.kinds[slot] == kind && program.subjects[slot] == subject) {
                     bits |= 1 << step;
                 }
             }
@@ -1938,7 +1834,7 @@ public final class RaceLocks {
 
         /** The steps of b that nothing keeps from those of a, as far as it lies with b's text. */
         private int stepsNear(int b, int a) {
-            int first = program.hasStep(b, 0) ? 1 : 0;
+            int first = program.lengthOf(b) > 0 ? 1 : 0;
             int near = spread(b, first, stepsWith(b, JOIN, a));
             if (a != b && program.startersOf(a) == 1 << b) {
                 near &= stepsAfter(b, stepsWith(b, START, a));
@@ -1957,48 +1853,40 @@ public final class RaceLocks {
             return spread(thread, from, 0);
         }
 
-        private boolean isNear(int b, int step, int a) {
-            int at = b * THREADS + a;
-            return at >= 0 && at < nears.length && (nears[at] >>> step & 1) != 0;
-        }
-
         boolean canMeet(int a, int step, int b, int other) {
-            return isNear(a, step, b) && isNear(b, other, a);
-        }
-
-        private boolean isDoubtful(int a, int step, int b, int other) {
-            return program.clash(a, step, b, other)
-                    && (program.heldAt(a, step) & program.heldAt(b, other)) == 0
-                    && canMeet(a, step, b, other);
+            if (a < 0 || a >= THREADS || b < 0 || b >= THREADS) {
+                return false;
+            }
+            return (nears[a * THREADS + b] >>> step & nears[b * THREADS + a] >>> other & 1) != 0;
         }
 
         private void listDoubts() {
             doubtful.clear();
-            for (int a = 0; a < program.threads; a++) {
-                for (int step = 0; step < program.lengthOf(a); step++) {
-                    listDoubtsOf(a, step);
+            for (int slot = 0; slot < ALL_STEPS; slot++) {
+                int a = slot / STEPS;
+                for (int other = (a + 1) * STEPS; other < ALL_STEPS; other++) {
+                    if (isDoubtful(a, slot % STEPS, other / STEPS, other % STEPS)) {
+                        doubtful.add(slot * ALL_STEPS + other);
+                    }
                 }
             }
         }
 
-        private void listDoubtsOf(int a, int step) {
-            for (int b = a + 1; b < program.threads; b++) {
-                for (int other = 0; other < program.lengthOf(b); other++) {
-                    if (isDoubtful(a, step, b, other)) {
-                        doubtful.add(program.pairOf(a, step, b, other));
-                    }
-                }
-            }
+        private boolean isDoubtful(int a, int step, int b, int other) {
+            int slot = program.slotOf(a, step);
+            int second = program.slotOf(b, other);
+            return program.clash(slot, second)
+                    && (program.helds[slot] & program.helds[second]) == 0
+                    && canMeet(a, step, b, other);
         }
 
         int guardsOf(int field) {
             int bits = (1 << program.locks) - 1;
-            for (int thread = 0; thread < program.threads; thread++) {
-                for (int step = 0; step < program.lengthOf(thread); step++) {
-                    if (program.touchesField(thread, step)
-                            && program.subjectAt(thread, step) == field) {
-                        bits &= program.heldAt(thread, step);
-                    }
+            for (int at = 0; at < ALL_STEPS; at++) {
+                int slot = program.slotOf(at / STEPS, at % STEPS);
+                boolean touches = program.kinds[slot] == READ || program.kinds[slot] == WRITE;
+                if (touches && program.subjects[slot] == field) {
+                    bits &= program.helds[slot];
                 }
             }
             return bits;
@@ -2007,12 +1895,11 @@ public final class RaceLocks {
         /** Each ring is counted from its taking of the least thread: a row turned round is one. */
         private int countRings() {
             int sum = 0;
-            for (int thread = 0; thread < program.threads; thread++) {
-                for (int step = 0; step < program.lengthOf(thread); step++) {
-                    if (program.kindAt(thread, step) == TAKE) {
-                        ringRow[0] = thread * STEPS + step;
-                        sum += countRingsFrom(1, program.heldAt(thread, step));
-                    }
+            for (int at = 0; at < ALL_STEPS; at++) {
+                int slot = program.slotOf(at / STEPS, at % STEPS);
+                if (program.kinds[slot] == TAKE) {
+                    ringRow[0] = slot;
+                    sum += countRingsFrom(1, program.helds[slot]);
                 }
             }
             return sum;
@@ -2024,10 +1911,8 @@ public final class RaceLocks {
                 return 0;
             }
             int first = ringRow[0];
-            int latest = ringRow[size - 1];
-            int lock = program.subjectAt(latest / STEPS, latest % STEPS);
-            int closing = program.heldAt(first / STEPS, first % STEPS) >>> lock & 1;
-            int sum = size > 1 ? closing : 0;
+            int lock = program.subjects[ringRow[size - 1]];
+            int sum = size > 1 ? program.helds[first] >>> lock & 1 : 0;
             for (int thread = first / STEPS + 1; thread < program.threads; thread++) {
                 sum += countRingsWith(size, held, lock, thread);
             }
@@ -2041,9 +1926,11 @@ public final class RaceLocks {
         private int countRingsWith(int size, int held, int lock, int thread) {
             int sum = 0;
             for (int step = 0; step < program.lengthOf(thread) && size < THREADS; step++) {
-                int own = program.heldAt(thread, step);
-                if ((own >>> lock & 1) != 0 && (own & held) == 0 && fitsRing(size, thread, step)) {
-                    ringRow[size] = thread * STEPS + step;
+                int slot = program.slotOf(thread, step);
+                int own = program.helds[slot];
+                if (program.kinds[slot] == TAKE && (own >>> lock & 1) != 0 && (own & held) == 0
+                        && fitsRing(size, thread, step)) {
+                    ringRow[size] = slot;
                     sum += countRingsFrom(size + 1, held | own);
                 }
             }
@@ -2051,9 +1938,6 @@ public final class RaceLocks {
         }
 
         private boolean fitsRing(int size, int thread, int step) {
-            if (program.kindAt(thread, step) != TAKE) {
-                return false;
-            }
             for (int i = 0; i < size && i < THREADS; i++) {
                 int before = ringRow[i] / STEPS;
                 if (before == thread || !canMeet(before, ringRow[i] % STEPS, thread, step)) {
