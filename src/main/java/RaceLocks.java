@@ -732,7 +732,7 @@ public final class RaceLocks {
         void emit(int kind, int subject) {
             closeOpen(program.lengthOf(thread));
             latest = program.addStep(thread, kind, subject, held, span);
-            openNexts = kind == STOP || latest == NONE ? 0 : 1 << latest;
+            openNexts = latest == NONE ? 0 : 1 << latest;
         }
 
         /** What the latest step works on: the local that it sets, the parts of its sum or test. */
@@ -828,6 +828,7 @@ public final class RaceLocks {
             depth = top;
         }
 
+        /** Behind the last steps of a thread, and behind each 'stop' wherever it stands, is none. */
         private void finishThread() {
             int length = program.lengthOf(thread);
             closeOpen(length);

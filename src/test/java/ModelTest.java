@@ -12,10 +12,25 @@ public final class ModelTest {
     private static int notWhole = 0;
     private static final int[] faults = new int[6];
 
+    /** Texts with more outcomes, races, rings than chance would make. */
+    private static final String[] CHOSEN = {
+        "field x;field a;field b;field c;field d;thread p{x=1;x=2;x=3;x=4;x=5;x=6;x=7;}"
+            + "thread q{r=x;a=r;r=x;b=r;r=x;c=r;r=x;d=r;}",
+        "field x;field y;field a;field b;field c;thread p{x=1;x=2;x=3;x=4;}thread o{y=1;y=2;y=3;}"
+            + "thread q{r=x;a=r;r=y;b=r;r=x;c=r;}",
+        "field x;thread a{" + "x=1;".repeat(24) + "}thread b{" + "x=2;".repeat(24) + "}",
+        "lock k;lock l;lock m;lock n;thread a{lock k{lock l{}lock m{}lock n{}lock l{}}}"
+            + "thread b{lock l{lock k{}lock m{}lock n{}lock k{}}}thread c{lock m{lock k{}lock l{}lock n{}lock k{}}}"
+            + "thread d{lock n{lock k{}lock l{}lock m{}lock l{}}}",
+    };
+
     public static void main(String[] args) {
         int howMany = args.length > 0 ? Integer.parseInt(args[0]) : 6000;
         long from = args.length > 1 ? Long.parseLong(args[1]) : 1;
         RaceLocks used = new RaceLocks();
+        for (String text : CHOSEN) {
+            compare(used, text);
+        }
         for (long seed = from; seed < from + howMany && Due.wrongs() == 0; seed++) {
             Texts texts = new Texts(seed);
             String text = texts.program();

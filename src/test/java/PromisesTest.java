@@ -226,6 +226,20 @@ public final class PromisesTest {
             {5, NONE, 9, 9, 0, NONE},
             {6, NONE, 9, 10, 0, NONE},
         });
+        // as deep as can be, with an 'else' there
+        RaceLocks deep = Due.with("thread t{" + "if 0<1{".repeat(6) + "if 0<1{r=1;}else{r=2;}" + "}".repeat(6) + "r=3;}");
+        steps(deep, 0, new int[][] {
+            {5, NONE, 1, 9, 0, NONE},
+            {5, NONE, 2, 9, 0, NONE},
+            {5, NONE, 3, 9, 0, NONE},
+            {5, NONE, 4, 9, 0, NONE},
+            {5, NONE, 5, 9, 0, NONE},
+            {5, NONE, 6, 9, 0, NONE},
+            {5, NONE, 7, 8, 0, NONE},
+            {2, NONE, 9, NONE, 0, NONE},
+            {2, NONE, 9, NONE, 0, NONE},
+            {2, NONE, 10, NONE, 0, NONE},
+        });
         for (int wrong : new int[] {-1, 2, 4, Integer.MAX_VALUE, Integer.MIN_VALUE}) {
             is("step of thread " + wrong, x.step(wrong, 0, 0), OUTSIDE);
         }
@@ -382,6 +396,9 @@ public final class PromisesTest {
         x = Due.with("field f;open o;field g;thread a{r=f;o=1;}thread b{g=1;o=2;}thread c{s=g;t=f;f=t;}");
         x.run();
         pairs(x, true, new int[][] {{0, 0, 2, 2, 0}, {1, 0, 2, 0, 2}});
+        x = Due.with("open f;field g;open h;thread a{f=1;g=1;h=1;}thread b{h=2;g=2;f=2;}");
+        x.run();
+        pairs(x, true, new int[][] {{0, 1, 1, 1, 1}});
         x = Due.with("field f;lock k;thread a{lock k{f=1;}}thread b{lock k{f=2;}}");
         x.run();
         pairs(x, true, new int[][] {});
@@ -427,6 +444,10 @@ public final class PromisesTest {
         thread(x, 7, 0, 1, 10, 1, 7, 3, 6);
         thread(x, 8, 0, 1, 11, 1, 7, 3, 6);
         thread(x, 9, 0, 4, 12, 0, 7, 2, 6);
+        // a value is neither less nor more than itself
+        x = Due.with("thread a{r=3;if r<3{stop;}if r>3{stop;}if 2<r{q=1;}if 4>r{q=q+2;}check q==3;}");
+        is("states", x.run(), 9);
+        thread(x, 8, 0, 4, 10, 0, 3, 3);
         // blocked by a lock: RUNNING, but it cannot step; stopping in a lock leaves it
         x = Due.with("lock k;thread a{lock k{stop;}}thread b{lock k{}}");
         x.run();
@@ -634,6 +655,11 @@ public final class PromisesTest {
         x = Due.with(two + checks("c", 22));
         is("152 times 23 states", x.run(), 3496);
         is("173 times 23 with a span at once", x.whole(0), 1);
+        // Of one that is ENDED it is nothing: in each of b's 24 later places a has 6 states in both ways.
+        x = Due.with("field z;thread a{q=z;if q==0{span{q=0;}}else{q=0;}}thread b{z=1;" + "check 0<1;".repeat(23) + "}"
+                + checks("c", 24));
+        is("148 times 25 states", x.run(), 3700);
+        is("as many with a span at once", x.whole(0), 1);
         x = Due.with("thread a{span{stop;}}");
         is("before run", x.whole(0), STATE);
     }
