@@ -1034,10 +1034,15 @@ public final class RaceLocks {
                 tokens.advance();
                 return lock;
             }
+            failAtWrongToken();
+            return NONE;
+        }
+
+        /** A NAME that is told, or a local, is of another sort; any other NAME is one not told. */
+        private void failAtWrongToken() {
             boolean unknown = tokens.kind == NAME && names.sortOf(tokens.value) == NONE
                     && names.localOf(tokens.value) == NONE;
             failHere(unknown ? NAMED_WRONG : MISPLACED);
-            return NONE;
         }
 
         private void readBranch(int kind, int block) {
@@ -1081,7 +1086,7 @@ public final class RaceLocks {
         private int takeTestValue() {
             int local = tokens.kind == NAME ? names.localOf(tokens.value) : NONE;
             if (local == NONE && tokens.kind != NUMBER) {
-                failHere(MISPLACED);
+                failAtWrongToken();
                 return NONE;
             }
             int value = local == NONE ? (int) tokens.value : 8 + local;

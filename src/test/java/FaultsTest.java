@@ -146,9 +146,9 @@ public final class FaultsTest {
         fault(2, told + "thread t{while 1<@o{}}");
         fault(2, told + "thread t{check @k!=1;}");
         fault(2, told + "thread t{check 1>@u;}");
-        fault(2, told + "thread t{check @r>1;}");
-        fault(2, told + "thread t{if 1<@r{}r=1;}");
-        fault(2, told + "thread t{r=1;}thread v{check @r>1;}");
+        fault(2, told + "thread t{if 1<@t{}}");
+        fault(2, told + "thread t{r=1;while @f>r{}}");
+        fault(2, told + "thread t{if @if==1{}}");
         fault(2, told + "thread t{lock @f{}}");
         fault(2, told + "thread t{lock @u{}}");
         fault(2, told + "thread t{wait @o;}");
@@ -175,9 +175,38 @@ public final class FaultsTest {
         fault(3, "thread t{wake @k;}");
         fault(3, "thread t{wake all @k;}");
         fault(3, "thread s{r=1;}thread t{lock @r{}}");
+        untoldInTest();
         fault(3, FIELDS6 + "field @a;");
         fault(3, LOCKS4 + "lock @k;");
         fault(3, "thread a{}thread b{}thread c{}thread d{}thread @c{}");
+    }
+
+    /** A NAME that is nothing told so far and has not come as a local of its thread. */
+    private static void untoldInTest() {
+        String[] signs = {"==", "!=", "<", ">"};
+        for (String sign : signs) {
+            String told = "field f;lock k;thread u{q=1;}thread t{r=f;";
+            fault(3, told + "check @q" + sign + "r;}");
+            fault(3, told + "check r" + sign + "@q;}");
+            fault(3, told + "check @q" + sign + "q;}");
+            fault(3, told + "if @q" + sign + "1{}}");
+            fault(3, told + "if 1" + sign + "@q{}}");
+            fault(3, told + "while @q" + sign + "r{}}");
+            fault(3, told + "while r" + sign + "@q{}}");
+            sound(4, told + "q=1;check q" + sign + "r;}");
+        }
+        fault(3, "thread t{check @r>1;}");
+        fault(3, "thread t{if 1<@r{}r=1;}");
+        fault(3, "thread t{r=1;}thread v{check @r>1;}");
+        // a thread's NAME is not told before its 'thread', though a step may mean it
+        fault(3, "thread t{check @u>1;}thread u{}");
+        fault(3, "thread t{start u;check @u>1;}thread u{}");
+        // no local is made by a test: three others are not one too many
+        fault(3, "thread t{p=q+r;check @s<1;}");
+        fault(3, "thread t{check @q;}");
+        fault(3, "thread t{check @q?1;}");
+        fault(2, "thread t{check @all<1;}");
+        fault(1, "thread t{check @abcdefg<1;}");
     }
 
     private static void tooMany() {

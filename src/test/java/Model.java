@@ -349,8 +349,12 @@ final class Model {
 
     private String testValue() {
         String text = now().text;
-        if (!now().isNumber() && !(now().isName() && locals.contains(text))) {
+        if (!now().isNumber() && !now().isName() || fields.contains(text) || locks.contains(text)
+                || threads.contains(text)) {
             throw fault(2);
+        }
+        if (now().isName() && !locals.contains(text)) {
+            throw fault(3);
         }
         at++;
         return locals.contains(text) ? "$" + locals.indexOf(text) : text;
