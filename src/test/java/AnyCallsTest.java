@@ -76,7 +76,7 @@ public final class AnyCallsTest {
         Texts texts = new Texts(chance.nextInt());
         String text = texts.program();
         byte[] bytes = Due.bytes(chance.nextInt(4) == 0 ? texts.spoilt(text) : text);
-        if (bytes.length <= 1480) {
+        if (bytes.length <= 1500) {
             Due.read(x, bytes);
         }
     }

@@ -15,6 +15,71 @@ final class Due {
         }
     }
 
+    static void is(String what, boolean so) {
+        is(what, so ? 1 : 0, 1);
+    }
+
+    /** A text with a fault of this kind, whose place is marked by @ (which is taken out). */
+    static void fault(int kind, String marked) {
+        int place = marked.indexOf('@');
+        String text = marked.substring(0, place) + marked.substring(place + 1);
+        RaceLocks x = new RaceLocks();
+        is("read of " + marked, read(x, text), -1000 - place);
+        is("fault of " + marked, x.fault(), kind);
+        is("count after the fault of " + marked, x.count(0), RaceLocks.STATE);
+    }
+
+    /** A text without a fault, of so many steps. */
+    static void sound(int steps, String text) {
+        RaceLocks x = new RaceLocks();
+        is("read of " + text, read(x, text), steps);
+        is("fault of " + text, x.fault(), 0);
+        is("count after no fault of " + text, x.count(4), steps);
+    }
+
+    static boolean feedThrows(RaceLocks x, int... five) {
+        try {
+            x.feed(five[0], five[1], five[2], five[3], five[4]);
+            return false;
+        } catch (IllegalStateException e) {
+            return true;
+        }
+    }
+
+    static boolean endThrows(RaceLocks x, int n) {
+        try {
+            x.end(n);
+            return false;
+        } catch (IllegalArgumentException e) {
+            return true;
+        }
+    }
+
+    /** What thread() tells of a thread, what after what; 0 for those that are not written out. */
+    static void thread(RaceLocks x, int state, int thread, int... due) {
+        for (int what = 0; what < 6; what++) {
+            is("thread " + state + " " + thread + " " + what, x.thread(state, thread, what), what < due.length ? due[what] : 0);
+        }
+    }
+
+    /** The one state in which the threads are so: how the first one is, its next step, the second .. */
+    static int where(RaceLocks x, int... due) {
+        int states = x.run();
+        int found = RaceLocks.NONE;
+        for (int state = 0; state < states; state++) {
+            boolean so = true;
+            for (int t = 0; t < due.length / 2; t++) {
+                so &= x.thread(state, t, 0) == due[2 * t] && x.thread(state, t, 1) == due[2 * t + 1];
+            }
+            if (so) {
+                is("only one such state", found, RaceLocks.NONE);
+                found = state;
+            }
+        }
+        is("there is such a state", found != RaceLocks.NONE);
+        return found;
+    }
+
     static int wrongs() {
         return wrong;
     }

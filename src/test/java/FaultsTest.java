@@ -17,19 +17,11 @@ public final class FaultsTest {
     }
 
     private static void fault(int kind, String marked) {
-        int place = marked.indexOf('@');
-        String text = marked.substring(0, place) + marked.substring(place + 1);
-        RaceLocks x = new RaceLocks();
-        Due.is("read of " + marked, Due.read(x, text), -1000 - place);
-        Due.is("fault of " + marked, x.fault(), kind);
-        Due.is("count after a fault", x.count(0), RaceLocks.STATE);
+        Due.fault(kind, marked);
     }
 
     private static void sound(int steps, String text) {
-        RaceLocks x = new RaceLocks();
-        Due.is("read of " + text, Due.read(x, text), steps);
-        Due.is("fault of " + text, x.fault(), 0);
-        Due.is("count after no fault", x.count(4), steps);
+        Due.sound(steps, text);
     }
 
     private static String times(int n, String text) {

@@ -48,7 +48,7 @@ public final class ModelTest {
     /** Reads with both; the model, or null if there is a fault. */
     private static Model compareReading(RaceLocks x, String text) {
         byte[] bytes = text.getBytes(StandardCharsets.ISO_8859_1);
-        if (bytes.length > 1480) {
+        if (bytes.length > 1500) {
             return null;
         }
         int place = 0;

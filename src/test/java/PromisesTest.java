@@ -39,21 +39,11 @@ public final class PromisesTest {
     }
 
     private static boolean feedThrows(RaceLocks x) {
-        try {
-            x.feed(1, 2, 3, 4, 5);
-            return false;
-        } catch (IllegalStateException e) {
-            return true;
-        }
+        return Due.feedThrows(x, 1, 2, 3, 4, 5);
     }
 
     private static boolean endThrows(RaceLocks x, int n) {
-        try {
-            x.end(n);
-            return false;
-        } catch (IllegalArgumentException e) {
-            return true;
-        }
+        return Due.endThrows(x, n);
     }
 
     private static void is(String what, boolean got) {
@@ -410,9 +400,7 @@ public final class PromisesTest {
     }
 
     private static void thread(RaceLocks x, int state, int thread, int... due) {
-        for (int what = 0; what < 6; what++) {
-            is("thread " + state + " " + thread + " " + what, x.thread(state, thread, what), what < due.length ? due[what] : 0);
-        }
+        Due.thread(x, state, thread, due);
     }
 
     private static void promise14() {
@@ -457,22 +445,8 @@ public final class PromisesTest {
         thread(x, 3, 1, 1, 0, 1);
     }
 
-    /** The one state in which the threads are so: how the first one is, its next step, the second .. */
     private static int where(RaceLocks x, int... due) {
-        int states = x.run();
-        int found = NONE;
-        for (int state = 0; state < states; state++) {
-            boolean so = true;
-            for (int t = 0; t < due.length / 2; t++) {
-                so &= x.thread(state, t, 0) == due[2 * t] && x.thread(state, t, 1) == due[2 * t + 1];
-            }
-            if (so) {
-                is("only one such state", found, NONE);
-                found = state;
-            }
-        }
-        is("there is such a state", found != NONE);
-        return found;
+        return Due.where(x, due);
     }
 
     private static final int UNSTARTED = 0, RUNS = 1, WAITS = 2, WOKEN = 3, ENDED = 4, FAILED = 5;
