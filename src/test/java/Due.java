@@ -3,6 +3,10 @@ final class Due {
     private static int wrong = 0;
     private static int asked = 0;
 
+    /** What may stand behind a token at fault: more faults of all kinds, and none. */
+    private static final String[] TAILS = {"", " ", " ?", " 8", " ;", " ;;", " }", " }}", " {", " {{", " =", " = 1;", " = 1 1;", " 1", " 1 1;",
+        " zz", " zz zz", " zz;}", " zz{}}", " if", " lock", " lock zz{", " span", " else", " all zz;", " <", " < zz {", "+", " field"};
+
     private Due() { }
 
     static void is(String what, long got, long want) {
@@ -27,6 +31,31 @@ final class Due {
         is("read of " + marked, read(x, text), -1000 - place);
         is("fault of " + marked, x.fault(), kind);
         is("count after the fault of " + marked, x.count(0), RaceLocks.STATE);
+        if (kind < 5 && place < text.length()) {
+            faultBeforeOthers(x, kind, place, text.substring(0, behindToken(text, place)));
+        }
+    }
+
+    /** "The first from the left": whatever comes behind the token at fault, it stays the one. */
+    private static void faultBeforeOthers(RaceLocks x, int kind, int place, String text) {
+        for (String tail : TAILS) {
+            if (text.length() + tail.length() <= 1500) {
+                is("read of " + text + tail, read(x, text + tail), -1000 - place);
+                is("fault of " + text + tail, x.fault(), kind);
+            }
+        }
+    }
+
+    /** Where the token ends that begins here: letters and digits, == and !=, or one byte. */
+    private static int behindToken(String text, int from) {
+        int to = from;
+        while (to < text.length() && "abcdefghijklmnopqrstuvwxyz0123456789".indexOf(text.charAt(to)) >= 0) {
+            to++;
+        }
+        if (to > from) {
+            return to;
+        }
+        return text.startsWith("==", from) || text.startsWith("!=", from) ? from + 2 : from + 1;
     }
 
     /** A text without a fault, of so many steps. */

@@ -99,6 +99,11 @@ public final class FaultsTest {
         fault(2, "thread t{stop@}");
         fault(2, "thread t{r@;}");
         fault(2, "thread t{r@==1;}");
+        fault(2, "thread t{r @1;}");
+        fault(2, "thread t{r @s;}");
+        fault(2, "field f;thread t{r @f;}");
+        fault(2, "field f;thread t{f @1;}");
+        fault(2, "field f;thread t{f @r;}");
         fault(2, "thread t{r=@;}");
         fault(2, "thread t{r=@stop;}");
         fault(2, "thread t{r=1+@;}");

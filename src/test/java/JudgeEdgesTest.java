@@ -21,6 +21,8 @@ public final class JudgeEdgesTest {
         ringsOfTwo();
         ringsOfMore();
         ringsFull();
+        ringsOfTakings();
+        askedFirst();
         Due.close("JudgeEdgesTest");
     }
 
@@ -111,6 +113,10 @@ public final class JudgeEdgesTest {
         meets("thread b{while 1<2{start a;stop;}r=1;}thread a{stop;}", 0, 0, 1, 0);
         meets("thread b{if 1<2{start a;}else{r=1;}}thread a{stop;}", 0, 0, 0);
         meets("thread b{while 1<2{if 1<2{r=1;}else{start a;}}}thread a{stop;}", 1, 1, 1, 1);
+        // back to the first step by a test that is so, and by one that is not
+        meets("thread b{while 1<2{start a;if 1<2{}else{stop;}}}thread a{stop;}", 1, 1, 1, 1);
+        meets("thread b{while 1<2{start a;if 1<2{stop;}}}thread a{stop;}", 1, 1, 1, 1);
+        meets("thread b{while 1<2{start a;while 1<2{stop;}}r=1;}thread a{stop;}", 1, 1, 1, 1, 1);
     }
 
     /** "or b's step cannot be come to from b's beginning but through a 'join' of a" */
@@ -335,6 +341,47 @@ public final class JudgeEdgesTest {
                 due *= 11;
             }
             is("eleven in each of " + size, rings(text), due);
+        }
+    }
+
+    /** "takings": no other step is in a ring, though its field, lock or thread has a lock's number. */
+    private static void ringsOfTakings() {
+        String crossed = "lock l{lock k{}}";
+        String told = "field e;field f;" + LOCKS4;
+        is("a taking", Due.with(told + "thread a{lock k{lock l{}}}thread b{" + crossed + "}").rings(), 1);
+        for (String step : new String[] {"r=f;", "f=1;", "r=1;", "wait l;", "wake l;", "wake all l;", "start b;", "join b;", "start a;",
+            "join a;", "if 1<2{}", "while 1<2{}", "check 1<2;", "stop;"}) {
+            is("none by " + step, Due.with(told + "thread a{lock k{" + step + "}}thread b{" + crossed + "}").rings(), 0);
+            is("none by " + step, Due.with(told + "thread b{" + crossed + "}thread a{lock k{" + step + "}}").rings(), 0);
+        }
+    }
+
+    /** Each of these calls may be the first one that is asked of a program, of a new object and of a used one. */
+    private static void askedFirst() {
+        String other = "field f;lock k;thread a{f=1;}thread b{stop;f=2;}thread c{r=f;}";
+        String text = "field e;field f;lock k;lock l;thread a{f=1;start b;lock k{lock l{f=2;}}f=3;}thread b{lock l{lock k{r=f;}}}";
+        for (int first = 0; first < 5; first++) {
+            for (int used = 0; used < 2; used++) {
+                RaceLocks x = new RaceLocks();
+                if (used == 1) {
+                    Due.read(x, other);
+                    is("doubts of the other one", x.doubts(), 1);
+                }
+                Due.read(x, text);
+                switch (first) {
+                    case 0 -> is("doubts first", x.doubts(), 1);
+                    case 1 -> doubt(x, 0, 0, 7, 1, 2, 1);
+                    case 2 -> is("meet first", x.meet(0, 7, 1, 2), 1);
+                    case 3 -> is("guards first", x.guards(1), 0);
+                    default -> is("rings first", x.rings(), 1);
+                }
+                is("doubts", x.doubts(), 1);
+                doubt(x, 0, 0, 7, 1, 2, 1);
+                is("meet", x.meet(0, 7, 1, 2), 1);
+                is("meet before the start", x.meet(0, 0, 1, 2), 0);
+                is("guards of what no step touches", x.guards(0), 3);
+                is("rings", x.rings(), 1);
+            }
         }
     }
 }

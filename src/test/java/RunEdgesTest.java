@@ -33,7 +33,10 @@ public final class RunEdgesTest {
         races();
         racesFull();
         outcomes();
+        outcomesApart();
+        outcomesOfFailed();
         outcomesFull();
+        readingFields();
         failedStates();
         threadEdges();
         stuckKinds();
@@ -256,6 +259,11 @@ public final class RunEdgesTest {
             // one that waits for another lock is not woken, and one that is WOKEN is not again
             x = Due.with("lock k;lock l;thread a{lock l{wait l;}}thread b{lock k{" + wake + wake + "}}");
             is("it waits for ever", x.stuck(Due.where(x, WAITS, 1, ENDED, 4)), 2);
+            isNeverWoken(x, 0);
+            // though its number is less than that of the one that is woken
+            x = Due.with("lock k;lock l;thread a{lock l{wait l;}}thread b{lock k{wait k;}}thread c{lock k{" + wake + "}}");
+            Due.where(x, WAITS, 1, WOKEN, 1, RUNS, 2);
+            isNeverWoken(x, 0);
         }
         String three = "lock k;thread a{lock k{wait k;}}thread b{lock k{wait k;}}thread c{lock k{wait k;}}thread d{lock k{";
         RaceLocks x = Due.with(three + "wake k;wake k;}}");
@@ -273,6 +281,13 @@ public final class RunEdgesTest {
         // a greater number wakes a lesser one and the other way round
         x = Due.with("lock k;thread a{lock k{wake k;}}thread b{lock k{wait k;}}");
         Due.where(x, RUNS, 2, WOKEN, 1);
+    }
+
+    private static void isNeverWoken(RaceLocks x, int thread) {
+        int states = x.run();
+        for (int state = 0; state < states; state++) {
+            is("it is not woken", x.thread(state, thread, 0) != WOKEN);
+        }
     }
 
     /** "'start': a thread that is NOT STARTED is RUNNING (ENDED without steps); any other: it is FAILED." */
@@ -629,6 +644,64 @@ public final class RunEdgesTest {
         Due.is(what, so);
     }
 
+    /**
+     * Each field's value, who is FAILED, and whether it is STUCK, each tells outcomes apart: a reads what b counts,
+     * and then writes f, or is FAILED, or stands for ever, or does nothing. What b counts is 0 in the end.
+     */
+    private static void outcomesApart() {
+        String[] names = {"a", "b", "c", "d", "e", "f"};
+        for (int at = 0; at < 24; at++) {
+            int field = at % 6;
+            int chooser = at / 6;
+            String told = "";
+            for (int i = 0; i < 6; i++) {
+                told += (i == (field + 1) % 6 ? "open z" : "field " + names[i]) + ";";
+            }
+            String[] threads = {"", "", "", ""};
+            threads[(chooser + 1) % 4] = "z=1;z=2;z=3;z=0;";
+            for (int value : new int[] {1, 2, 4, 7}) {
+                threads[chooser] = "r=z;if r==1{" + names[field] + "=" + value + ";}if r==2{check 1<1;}if r==3{join t" + chooser + ";}";
+                RaceLocks x = Due.with(told + "thread t0{" + threads[0] + "}thread t1{" + threads[1] + "}thread t2{" + threads[2]
+                        + "}thread t3{" + threads[3] + "}");
+                x.run();
+                is("outcomes of field " + field + ", thread " + chooser + ", value " + value, x.found(3), 4);
+            }
+        }
+    }
+
+    /** Three threads that may be FAILED or not: all eight rows, with one that writes before, between and behind them. */
+    private static void outcomesOfFailed() {
+        for (int writer = 0; writer < 4; writer++) {
+            String text = "open z;";
+            for (int i = 0; i < 4; i++) {
+                text += "thread t" + i + "{" + (i == writer ? "z=1;z=0;" : "r=z;check r==0;") + "}";
+            }
+            RaceLocks x = Due.with(text);
+            x.run();
+            is("outcomes", x.found(3), 8);
+            // the same with one that stands for ever behind its writes: STUCK ones are as many
+            x = Due.with(text.replace("z=1;z=0;", "z=1;z=0;join t" + writer + ";"));
+            x.run();
+            is("ends", x.found(0), 0);
+            is("outcomes", x.found(3), 8);
+        }
+    }
+
+    /** "r=x": into each of the three locals, from each of the six fields. */
+    private static void readingFields() {
+        String told = "field a=1;open b=2;field c=3;open d=4;field e=5;open f=6;thread t{";
+        String[] fields = {"a", "b", "c", "d", "e", "f"};
+        for (int i = 0; i < 6; i++) {
+            Due.thread(ran(told + "p=" + fields[i] + ";q=7;r=7;}", 4), 3, 0, ENDED, 3, 0, i + 1, 7, 7);
+            Due.thread(ran(told + "p=7;q=" + fields[i] + ";r=7;}", 4), 3, 0, ENDED, 3, 0, 7, i + 1, 7);
+            Due.thread(ran(told + "p=7;q=7;r=" + fields[i] + ";}", 4), 3, 0, ENDED, 3, 0, 7, 7, i + 1);
+            RaceLocks x = ran(told + "p=7;q=5;r=3;" + fields[i] + "=q;}", 5);
+            for (int field = 0; field < 6; field++) {
+                is("field " + field, x.field(4, field), field == i ? 5 : field + 1);
+            }
+        }
+    }
+
     /** Two readers of what another one counts: all rows of two fields' values that do not fall. */
     private static void outcomesFull() {
         RaceLocks x = Due.with("open x;field a;field b;field c;thread p{x=1;x=2;x=3;x=4;x=5;x=6;x=7;}thread q{r=x;a=r;r=x;b=r;r=x;c=r;}");
@@ -642,6 +715,14 @@ public final class RunEdgesTest {
             before = state;
         }
         is("one behind all", x.show(3, 120), OUTSIDE);
+        // the same with four: 11 over 4; its own steps at once, but for the first one, are no other ones
+        x = Due.with("open x;field a;field b;field c;field d;thread p{x=1;x=2;x=3;x=4;x=5;x=6;x=7;}"
+                + "thread q{r=x;a=r;r=x;b=r;r=x;c=r;r=x;span{d=r;check 0<1;}}");
+        is("states of it", x.run() > 0);
+        is("outcomes of four", x.found(3), 330);
+        is("the last one", x.show(3, 329) > 0);
+        is("one behind all of four", x.show(3, 330), OUTSIDE);
+        is("at once", x.whole(0), 1);
     }
 
     /** "4 states in which some thread is FAILED": all of them, not the last ones alone. */
@@ -741,6 +822,11 @@ public final class RunEdgesTest {
         // "if it can": who must wait for others lets them step
         is("it joins inside", whole(told + "span{f=1;join b;f=2;}}" + see), 1);
         is("it waits inside", whole(told + "lock k{span{f=1;wait k;f=2;}}}thread b{lock k{r=f;g=r;wake k;}}"), 1);
+        // WOKEN it is not RUNNING: the others step, though it can
+        is("it is woken inside", whole(told + "lock k{span{wait k;f=1;}}}thread b{lock k{wake k;}r=f;g=r;}"), 1);
+        is("behind its 'wait' it is RUNNING", whole(told + "lock k{span{wait k;f=1;f=2;}}}thread b{lock k{wake k;}r=f;g=r;}"), 0);
+        is("which is in the span itself", whole(told + "lock k{wait k;span{f=1;f=2;}}}thread b{lock k{wake k;}r=f;g=r;}"), 0);
+        is("or is not, and is behind it at once", whole(told + "lock k{wait k;span{f=1;}f=2;}}thread b{lock k{wake k;}r=f;g=r;}"), 1);
         is("it must wait for a lock inside", whole(told + "span{f=1;lock k{f=2;}}}thread b{lock k{r=f;g=r;}}"), 1);
         is("it must not", whole(told + "span{f=1;lock k{f=2;}}}" + see), 0);
         // the other threads have no part in it
@@ -881,6 +967,15 @@ public final class RunEdgesTest {
         for (int[] way : ways) {
             is("behind " + way[0] + " " + way[1], x.step(way[0], way[1], 2), way[2]);
             is("else behind " + way[0] + " " + way[1], x.step(way[0], way[1], 3), way[3]);
+        }
+        // what is last inside a then-side goes behind the other side, the tests this way and that
+        x = Due.with("thread t{if 1<2{if 1<2{r=1;}}else{r=2;}r=3;}thread u{if 1<2{while 1<2{}}else{if 1<2{}else{}}}"
+                + "thread v{if 1<2{}else{if 1<2{r=1;}}if 1<2{}else{}stop;}thread w{while 1<2{if 1<2{if 1<2{}}else{r=1;}}}");
+        int[][] sides = {{0, 0, 1, 3}, {0, 1, 2, 4}, {0, 2, 4, NONE}, {0, 3, 4, NONE}, {1, 0, 1, 2}, {1, 1, 1, 3}, {1, 2, 3, 3},
+            {2, 0, 3, 1}, {2, 1, 2, 3}, {2, 2, 3, NONE}, {2, 3, 4, 4}, {3, 0, 1, 4}, {3, 1, 2, 3}, {3, 2, 0, 0}, {3, 3, 0, NONE}};
+        for (int[] side : sides) {
+            is("behind " + side[0] + " " + side[1], x.step(side[0], side[1], 2), side[2]);
+            is("else behind " + side[0] + " " + side[1], x.step(side[0], side[1], 3), side[3]);
         }
         // 'stop' as the last of a loop's body, and of a then-side
         x = Due.with("thread t{while 1<2{r=1;stop;}if 1<2{stop;}else{r=2;}r=3;}");
