@@ -320,7 +320,11 @@ public final class JudgeEdgesTest {
             is("beside one that has no part", rings(text + "thread u{lock n{lock k{}}}"), 1);
             is("one that could stand for another", rings(text + "thread u{" + three[order[0]] + "}"), 2);
         }
-        is("three of the same thread", rings("thread a{lock k{lock l{}}lock l{lock m{}}}thread b{lock m{lock k{}}}"), 0);
+        is("two of three of the same thread", rings("thread a{lock k{lock l{}}lock l{lock m{}}}thread b{lock m{lock k{}}}"), 0);
+        is("which is the greater one", rings("thread b{lock m{lock k{}}}thread a{lock k{lock l{}}lock l{lock m{}}}"), 0);
+        is("two of four of the same thread", rings("thread a{" + rows[0] + "}thread b{" + rows[1] + rows[2] + "}thread c{" + rows[3] + "}"), 0);
+        is("which is the greatest one", rings("thread a{" + rows[0] + "}thread b{" + rows[1] + "}thread c{" + rows[2] + rows[3] + "}"), 0);
+        is("not beside one another", rings("thread a{" + rows[0] + "}thread b{" + rows[1] + rows[3] + "}thread c{" + rows[2] + "}"), 0);
         is("a lock held at two of three", rings("thread a{lock k{lock l{}}}thread b{lock n{lock l{lock m{}}}}thread c{lock n{lock m{lock k{}}}}"), 0);
         is("two of three do not meet", rings("thread a{lock k{lock l{}}start b;}thread b{lock l{lock m{}}}thread c{lock m{lock k{}}}"), 0);
         is("two of four do not meet", rings("thread a{lock k{lock l{}}start c;}thread b{lock l{lock m{}}}thread c{lock m{lock n{}}}"
